@@ -216,12 +216,13 @@ public final class StructureFinder {
         if (c >= 'x' && c <= 'z') {
             return FIRST_VARIABLE + (c - 'x');
         }
-        switch (c) {
-            case '=': return EQUALS;
-            case '!': return NOT;
-            case '|': return OR;
-            default: return NO_CODE;
+        if (c == '=') {
+            return EQUALS;
         }
+        if (c == '!') {
+            return NOT;
+        }
+        return c == '|' ? OR : NO_CODE;
     }
 
     private static boolean isFunction(int code) {
@@ -654,7 +655,8 @@ public final class StructureFinder {
         static final int FOUND = 1;
 
         private static final int INSTANCES = GREATEST_SIZE * GREATEST_SIZE * GREATEST_SIZE;
-        private static final int NO_CELL = -1;
+        /** The rank before all cells: no look reads less, so that every instance needs a look then. */
+        private static final int NO_CELL = Look.NONE_READ;
         /** Each step is a try or goes back behind one, so that no call comes near it. */
         private static final int MOST_STEPS = 1000000;
 
@@ -688,8 +690,6 @@ public final class StructureFinder {
         /** FOUND, NONE or OUT. */
         int begin(int n, Symbols symbols) {
             tables.lay(n, symbols);
-            // As if each look had read the last cell: then every instance gets its first look.
-            Arrays.fill(greatestRead, Tables.MOST_CELLS);
             greatestBefore[0] = Tables.NO_VALUE;
             return isSomeBroken(NO_CELL) ? NONE : fill(0);
         }

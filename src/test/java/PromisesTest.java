@@ -462,6 +462,17 @@ public final class PromisesTest {
         }
         f.find(1);
         due("no structure", f.value('a', 0, 0), StructureFinder.BAD);
+        StructureFinder four = with("a1 c2 P1");
+        for (String text : "Px|Pax !Px|!Pax !=aaxx =cxyx".split(" ")) {
+            clause(four, text);
+        }
+        due("size 4", four.find(4), 4);
+        for (int number : new int[] {-1, 4, 16, least, greatest}) {
+            due("a of no argument in size 4", four.value('a', number, 0), StructureFinder.BAD);
+            due("first of c in size 4", four.value('c', number, 0), StructureFinder.BAD);
+            due("second of c in size 4", four.value('c', 0, number), StructureFinder.BAD);
+        }
+        due("c of 3 and 3", four.value('c', 3, 3), 3);
     }
 
     private static void triesCounted() {
