@@ -74,15 +74,14 @@ public final class StructureFinder {
     }
 
     public int clause() {
-        // Being full is told without reading the text, so it goes before any place where the text is wrong.
-        if (held.isFull()) {
-            buffer.empty();
-            return FULL;
-        }
         int place = held.free().read(buffer, symbols);
         buffer.empty();
+        // A wrong text is told even when there is no room: the document names it before FULL.
         if (place != Clause.RIGHT) {
             return WRONG - place;
+        }
+        if (held.isFull()) {
+            return FULL;
         }
         clausesChanged = true;
         return held.keepFree();
@@ -151,15 +150,14 @@ public final class StructureFinder {
     }
 
     public int check() {
-        // That there is no structure is told without reading the text, as in clause().
-        if (foundSize == 0) {
-            buffer.empty();
-            return NO;
-        }
         int place = question.read(buffer, symbols);
         buffer.empty();
+        // A wrong text is told even without a structure, as in clause().
         if (place != Clause.RIGHT) {
             return WRONG - place;
+        }
+        if (foundSize == 0) {
+            return NO;
         }
         return holdsInStructure() ? 1 : 0;
     }
@@ -387,7 +385,7 @@ public final class StructureFinder {
         }
     }
 
-    /** The clauses that there are, and one free row behind them. */
+    /** The clauses that there are, and one free row behind them: a text is read there even when they are full. */
     private static final class Clauses {
         private final Clause[] rows;
         private int used;

@@ -65,9 +65,9 @@ final class PlainModel {
     int clause() {
         String read = buffer;
         buffer = "";
-        if (clauses.size() == 8) return FULL;
         int place = wrongPlace(read);
         if (place >= 0) return -100 - place;
+        if (clauses.size() == 8) return FULL;
         clauses.add(read);
         same = false;
         return clauses.size();
@@ -126,9 +126,9 @@ final class PlainModel {
     int check() {
         String read = buffer;
         buffer = "";
-        if (size == 0) return NO;
         int place = wrongPlace(read);
         if (place >= 0) return -100 - place;
+        if (size == 0) return NO;
         int[] broken = firstBroken(read, size);
         if (broken == null) return 1;
         theCase = broken;

@@ -194,10 +194,14 @@ public final class PromisesTest {
         due("ninth", clause(f, "P"), StructureFinder.FULL);
         due("the buffer is empty", f.type('P', 1), 1);
         due("ninth again", f.clause(), StructureFinder.FULL);
-        due("full without reading a wrong text", clause(f, "=x"), StructureFinder.FULL);
+        due("an empty text before full", f.clause(), -100);
+        due("a wrong text before full", clause(f, "P|Q"), -102);
+        due("the buffer is empty behind it", f.type('P', 1), 1);
+        due("wrong at the end before full", clause(f, "|=x"), -104);
         due("still eight", f.clauses(), 8);
         f.find(1);
         due("nothing came", clause(f, "P"), StructureFinder.FULL);
+        due("nor by a wrong one", clause(f, "!"), -101);
         due("so more goes on", f.more(), 0);
         f.drop();
         due("room again", clause(f, "!P"), 8);
@@ -548,11 +552,15 @@ public final class PromisesTest {
 
     private static void checkRefused() {
         promise = 11;
+        due("an empty text on a new object", new StructureFinder().check(), -100);
         StructureFinder f = with("P0");
         due("no structure", check(f, "P"), StructureFinder.NO);
         due("the buffer is empty", f.type('P', 1), 1);
         due("no structure again", f.check(), StructureFinder.NO);
-        due("no structure without reading a wrong text", check(f, "=x"), StructureFinder.NO);
+        due("an empty text without a structure", f.check(), -100);
+        due("a wrong text without a structure", check(f, "P|Q"), -102);
+        due("the buffer is empty behind it", f.type('P', 1), 1);
+        due("wrong at the end without a structure", check(f, "|=x"), -104);
         for (int i = 0; i < 8; i++) {
             clause(f, "P");
         }
