@@ -264,23 +264,27 @@ public final class PromisesTest {
         countsThrough("c0 d0 Q0 P0", "P00 Q00");
         countsThrough("c0 d0 a1 b1 P1", "a00 b00 P00 a10 b10 P10");
         countsThrough("c0 d0 P1 a2", "a00 P00 a01 a10 a11 P10");
-        countsThrough("c0 d0 Q2 a1 R1", "a00 Q00 R00 a10 Q01 Q10 Q11 R10");
+        countsThrough("c0 d0 Q2 a1", "a00 Q00 a10 Q01 Q10 Q11");
+        countsThrough("c0 d0 R1 Q2", "Q00 R00 Q01 Q10 Q11 R10");
     }
 
     /** Two constants that differ make the size 2, so that every cell behind them has the values 0 and 1. */
     private static void countsThrough(String symbols, String cells) {
         String[] inOrder = cells.split(" ");
+        for (int k = 0; k < inOrder.length; k++) {
+            countsThrough(symbols, inOrder[k], inOrder.length, inOrder.length - 1 - k);
+        }
+    }
+
+    /** One object for each cell, because the document promises 512 calls of one. */
+    private static void countsThrough(String symbols, String cell, int cells, int behind) {
         StructureFinder f = with(symbols);
         clause(f, "!=cd");
-        due("size for " + cells, f.find(4), 2);
-        for (int number = 0; number < 1 << inOrder.length; number++) {
-            for (int k = 0; k < inOrder.length; k++) {
-                String cell = inOrder[k];
-                due("cell " + cell + " of structure " + number,
-                        f.value(cell.charAt(0), cell.charAt(1) - '0', cell.charAt(2) - '0'),
-                        number >> (inOrder.length - 1 - k) & 1);
-            }
-            due("more", f.more(), number + 1 < 1 << inOrder.length ? 1 : 0);
+        due("size for " + cell, f.find(4), 2);
+        for (int number = 0; number < 1 << cells; number++) {
+            due("cell " + cell + " of structure " + number,
+                    f.value(cell.charAt(0), cell.charAt(1) - '0', cell.charAt(2) - '0'), number >> behind & 1);
+            due("more", f.more(), number + 1 < 1 << cells ? 1 : 0);
         }
     }
 
