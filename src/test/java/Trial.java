@@ -34,8 +34,14 @@ final class Trial {
         failed += trial.holds ? 0 : 1;
     }
 
+    /** A fault that no single call shows. */
+    static void complain(String fault) {
+        System.out.println(fault);
+        failed++;
+    }
+
     static void end() {
-        System.out.println(failed == 0 ? made + " boundary cases hold" : failed + " of " + made + " do not hold");
+        System.out.println(failed == 0 ? made + " cases hold" : failed + " of " + made + " do not hold");
         if (failed != 0) {
             System.exit(1);
         }
